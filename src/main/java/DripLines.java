@@ -542,7 +542,6 @@ public final class DripLines {
             places[number] = newPlace(kind, number, worth);
             price[number] = kind == GATE ? worth : 0;
             wish[number] = kind == WISH ? worth : 0;
-            streetsOf[number] = 0;
             if (kind == TAP || kind == WELL) {
                 taps |= 1 << number;
             }
@@ -707,8 +706,9 @@ public final class DripLines {
                 fell = false;
                 for (int s = 0; s < net.streetCount; s++) {
                     if (net.isThere(s)) {
-                        fell |= shorten(net.first[s], s, net.second[s], goal);
-                        fell |= shorten(net.second[s], s, net.first[s], goal);
+                        boolean there = shorten(net.first[s], s, net.second[s], goal);
+                        boolean back = shorten(net.second[s], s, net.first[s], goal);
+                        fell = fell || there || back;
                     }
                 }
             }
@@ -913,32 +913,31 @@ public final class DripLines {
             Arrays.fill(cheapest, NONE);
             if (net.taps != 0) {
                 int root = Integer.numberOfTrailingZeros(net.taps);
-                grow(0, 1 << root, net.streetsOf[root], net.there, 0, 0, 0);
+                grow(0, 1 << root, net.streetsOf[root], 0, 0, 0);
                 putInOrder(0, bestCount, 0);
             }
         }
 
         /**
-         * Goes through all sets without a ring that hang together, hold the tree and add to it only
-         * free streets: each once, since a street is no longer free after it has had its turn.
+         * Weighs the tree, and all that come from it by adding near streets, each in its turn, and those
+         * that come near through them. None is met twice: a street whose turn has passed may come near
+         * again at its other end, but then both of its ends are among the places, and it is left out.
          */
-        private void grow(int tree, int places, int near, int free, int costs, int worth, int depth) {
+        private void grow(int tree, int places, int near, int costs, int worth, int depth) {
             if (depth >= MAX_PLACES) {
                 return;
             }
             if ((net.taps & ~places) == 0) {
                 weigh(tree, costs, worth);
             }
-            int turns = near;
-            int stillFree = free;
-            for (int turn = 0; turn < MAX_STREETS && turns != 0; turn++) {
-                int street = Integer.numberOfTrailingZeros(turns);
-                turns &= ~(1 << street);
-                stillFree &= ~(1 << street);
+            int left = near;
+            for (int turn = 0; turn < MAX_STREETS && left != 0; turn++) {
+                int street = Integer.numberOfTrailingZeros(left);
+                left &= ~(1 << street);
                 int reached = net.ends[street] & ~places;
                 if (reached != 0) {
                     int p = Integer.numberOfTrailingZeros(reached);
-                    grow(tree | 1 << street, places | reached, (turns | net.streetsOf[p]) & stillFree, stillFree,
+                    grow(tree | 1 << street, places | reached, left | net.streetsOf[p],
                             costs + net.cost[street] + net.price[p], worth + net.wish[p], depth + 1);
                 }
             }

@@ -1,156 +1,212 @@
 import java.lang.reflect.Method;
+import java.lang.reflect.Modifier;
 import java.util.Arrays;
-import java.util.Comparator;
 import java.util.Random;
+import java.util.TreeMap;
 
 /** Runs of calls drawn with fixed seeds, each answered by DripLines and by Reference alike. */
 public final class RandomRunsTest {
-    private static final String[] BUILD = {"place", "street", "street", "street", "drop"};
+    private static final int[] ODD = {Integer.MIN_VALUE, Integer.MIN_VALUE + 1, -1000001, -101, -100, -2, -1,
+        100, 101, 1000, Integer.MAX_VALUE - 2, Integer.MAX_VALUE - 1, Integer.MAX_VALUE};
+    private static final String[] BUILD = {"place", "street", "street", "drop", "undo", "fromMap"};
     private static final String[] HAND = {"lay", "lay", "lay", "lay", "better", "trim", "clear"};
-    private static final int[] ODD = {Integer.MIN_VALUE, -1000001, -101, -100, -2, -1, 100, 101, 1000, Integer.MAX_VALUE - 1, Integer.MAX_VALUE};
+    private static final TreeMap<String, Method> OWN = face(DripLines.class);
+    private static final TreeMap<String, Method> DUE = face(Reference.class);
+    private static final String[] NAMES = OWN.keySet().toArray(new String[0]);
 
     private final Random random;
     private final int maxPlaces;
     private final int maxStreets;
     private final int maxCost;
-    private final boolean growing;
-    private DripLines own = new DripLines();
-    private Reference due = new Reference();
+    private final DripLines own = new DripLines();
+    private final Reference due = new Reference();
     private final StringBuilder told = new StringBuilder();
+    private boolean wrong = false;
 
     private RandomRunsTest(long seed) {
         random = new Random(seed);
-        maxPlaces = seed % 7 == 0 ? 11 : 3 + random.nextInt(6);
-        maxStreets = seed % 40 == 0 ? 17 : 3 + random.nextInt(7);
+        boolean full = seed % 40 == 0;
+        maxPlaces = full || seed % 7 == 0 ? 10 : 2 + random.nextInt(7);
+        maxStreets = full ? 16 : 3 + random.nextInt(7);
         maxCost = random.nextInt(3) == 0 ? 100 : 1 + random.nextInt(8);
-        growing = random.nextBoolean();
     }
 
-    private static Method[] face(Class<?> of) {
-        Method[] methods = Arrays.stream(of.getDeclaredMethods())
-            .filter(m -> java.lang.reflect.Modifier.isPublic(m.getModifiers())).toArray(Method[]::new);
-        Arrays.sort(methods, Comparator.comparing(Method::getName));
+    private static TreeMap<String, Method> face(Class<?> of) {
+        TreeMap<String, Method> methods = new TreeMap<>();
+        for (Method m : of.getDeclaredMethods()) {
+            if (Modifier.isPublic(m.getModifiers())) methods.put(m.getName(), m);
+        }
         return methods;
     }
 
-    private static final Method[] OWN = face(DripLines.class);
-    private static final Method[] DUE = face(Reference.class);
-
-    private int pick(int limit) {
-        return random.nextInt(40) == 0 ? ODD[random.nextInt(ODD.length)] : random.nextInt(limit + 1) - (random.nextInt(20) == 0 ? 1 : 0);
-    }
-
-    private int[] arguments(String name, int many) {
-        int places = due.count(0);
-        int streets = due.count(1);
-        switch (name) {
-            case "place": return new int[] {pick(4), random.nextInt(15) == 0 ? pick(110) : 1 + random.nextInt(maxCost)};
-            case "street": return new int[] {pick(places), pick(places), random.nextInt(25) == 0 ? pick(110) : 1 + random.nextInt(maxCost)};
-            case "drop", "lay", "must": return new int[] {pick(streets)};
-            case "told": return new int[] {pick(places), pick(3)};
-            case "streetTold": return new int[] {pick(streets), pick(5)};
-            case "apart": return new int[] {pick(places), pick(places)};
-            case "way": return new int[] {pick(places), pick(places), pick(5)};
-            case "best": return new int[] {pick(Math.min(40, due.many())), pick(6)};
-            case "most": return new int[] {pick(random.nextBoolean() ? 30 : 900)};
-            case "wall": return new int[] {pick(Math.max(1, due.walls())), pick(2)};
-            case "act": return new int[] {pick(places), pick(4), random.nextBoolean() ? pick(20) : random.nextInt()};
-            case "map": return new int[] {pick(5), pick(4) - 1, pick(21)};
-            case "cell": return new int[] {pick(5), pick(12), random.nextInt(4) == 0 ? random.nextInt() : pick(9)};
-            case "fromMap": return new int[] {pick(5), pick(3), pick(8)};
-            case "forge": return new int[] {pick(7), pick(9) - 3, pick(20) - 8};
-            default:
-                int[] rest = new int[many];
-                for (int i = 0; i < many; i++) rest[i] = pick(8);
-                return rest;
-        }
-    }
-
-    private String name() {
-        int draw = random.nextInt(10);
-        boolean mayGrow = due.count(0) < maxPlaces || due.count(1) < maxStreets;
-        if (draw < 2 && (growing || mayGrow)) return BUILD[random.nextInt(BUILD.length)];
-        if (draw < 4) return HAND[random.nextInt(HAND.length)];
-        return OWN[random.nextInt(OWN.length)].getName();
-    }
-
-    private boolean tooMany(String name) {
-        return name.equals("place") && due.count(0) >= maxPlaces
-            || (name.equals("street") || name.equals("fromMap")) && due.count(1) >= maxStreets;
-    }
-
-    private boolean agree(String name, int[] numbers) throws Exception {
-        int at = 0;
-        while (!OWN[at].getName().equals(name)) at++;
+    private void ask(String name, int... numbers) {
+        if (wrong) return;
         Object[] arguments = Arrays.stream(numbers).boxed().toArray();
-        int got = (int) OWN[at].invoke(own, arguments);
-        int want = (int) DUE[at].invoke(due, arguments);
+        int got;
+        int want;
+        try {
+            got = (int) OWN.get(name).invoke(own, arguments);
+            want = (int) DUE.get(name).invoke(due, arguments);
+        } catch (ReflectiveOperationException thrown) {
+            throw new IllegalStateException(told + name + Arrays.toString(numbers), thrown);
+        }
         told.append(name).append(Arrays.toString(numbers)).append(" = ").append(want).append('\n');
-        boolean same = got == want && own.status() == due.status();
-        if (!same) {
-            System.out.println(told);
-            System.out.println("the last call answered " + got + " with status " + own.status()
+        if (got != want || own.status() != due.status()) {
+            wrong = true;
+            System.out.println(told + "the last call answered " + got + " with status " + own.status()
                 + ", due is " + want + " with status " + due.status());
         }
-        return same;
     }
 
-    private boolean layBest() throws Exception {
-        if (due.many() == 0 || !agree("clear", new int[0])) return due.many() == 0;
-        int k = random.nextInt(due.many());
-        for (int i = 0; due.best(k, i) != -1; i++) {
-            if (!agree("lay", new int[] {due.best(k, i)})) return false;
+    private int pick(int limit) {
+        if (random.nextInt(50) == 0) return ODD[random.nextInt(ODD.length)];
+        return random.nextInt(25) == 0 ? limit + 1 : random.nextInt(Math.max(1, limit + 1));
+    }
+
+    private int amount() {
+        return random.nextInt(25) == 0 ? random.nextInt(103) - 1 : 1 + random.nextInt(maxCost);
+    }
+
+    private int[] arguments(String name) {
+        int place = due.count(0) - 1;
+        int street = due.count(1) - 1;
+        switch (name) {
+            case "place": return new int[] {pick(4), amount()};
+            case "street": return new int[] {pick(place), pick(place), amount()};
+            case "drop", "lay", "must": return new int[] {pick(street)};
+            case "told": return new int[] {pick(place), pick(2)};
+            case "streetTold": return new int[] {pick(street), pick(4)};
+            case "apart": return new int[] {pick(place), pick(place)};
+            case "way": return new int[] {pick(place), pick(place), pick(4)};
+            case "best": return new int[] {pick(due.many() - 1), pick(5)};
+            case "most": return new int[] {pick(random.nextBoolean() ? 30 : 900)};
+            case "wall": return new int[] {pick(due.walls() - 1), pick(1)};
+            case "act": return new int[] {pick(place), pick(3), random.nextBoolean() ? pick(20) : random.nextInt()};
+            case "map": return new int[] {pick(4), pick(3) - 1, pick(20)};
+            case "cell": return new int[] {pick(4), pick(9), random.nextInt(4) == 0 ? random.nextInt() : pick(9)};
+            case "fromMap": return new int[] {pick(4), pick(2), pick(6)};
+            case "forge": return new int[] {pick(6), pick(9) - 3, pick(20) - 8};
+            case "count": return new int[] {pick(6)};
+            case "trace": return new int[] {pick(7)};
+            default: return new int[0];
         }
-        return agree("tag", new int[0]) && agree("better", new int[0]) && agree("trim", new int[0]);
     }
 
-    // A spanning tree drawn at random, so that trim and better have something to do.
-    private boolean laySome() throws Exception {
-        if (!agree("clear", new int[0])) return false;
+    private void start() {
+        for (int p = 0; p < maxPlaces; p++) {
+            ask("place", random.nextInt(4) == 0 ? 1 : random.nextInt(5), 1 + random.nextInt(maxCost));
+        }
+        for (int p = 1; p < maxPlaces && due.count(1) < maxStreets; p++) {
+            int before = random.nextInt(p);
+            ask("street", random.nextBoolean() ? p : before, before, 1 + random.nextInt(maxCost));
+            ask("street", p, before, 1 + random.nextInt(maxCost));
+            if (random.nextInt(3) != 0) ask("undo");
+        }
+        for (int tries = 0; tries < 40 && due.count(1) < maxStreets; tries++) {
+            ask("street", random.nextInt(maxPlaces), random.nextInt(maxPlaces), 1 + random.nextInt(maxCost));
+        }
+    }
+
+    private void streetInMap() {
+        int map = random.nextInt(5);
+        int sort = random.nextInt(3);
+        int at = random.nextInt(5);
+        ask("map", map, sort, at + 2 + random.nextInt(3));
+        ask("cell", map, at, pick(due.count(0) - 1));
+        ask("cell", map, at + 1, pick(due.count(0) - 1));
+        ask("cell", map, at + 2, amount());
+        if (due.count(1) < maxStreets) ask("fromMap", map, random.nextInt(6) == 0 ? random.nextInt(3) : sort, at);
+        ask("forge", 2 + random.nextInt(2), random.nextInt(6) - 1, map - 5 * random.nextInt(3));
+    }
+
+    private void layBest() {
+        if (due.many() == 0) return;
+        ask("clear");
+        int k = random.nextInt(due.many());
+        for (int i = 0; due.best(k, i) != -1; i++) ask("lay", due.best(k, i));
+        useHand();
+    }
+
+    // A set without a ring drawn at random, so that trim and better have something to do.
+    private void laySome() {
+        ask("clear");
         int streets = due.count(1);
-        for (int tries = 0; tries < 2 * streets; tries++) {
+        for (int tries = 0; tries < 3 * streets; tries++) {
             int street = random.nextInt(streets);
             if (due.streetTold(street, 3) == 1 && due.streetTold(street, 4) == 0) {
-                if (!agree("lay", new int[] {street})) return false;
-                if (due.why() == 1 && !agree("lay", new int[] {street})) return false;
+                ask("lay", street);
+                ask("why");
+                if (due.why() == 1) ask("lay", street);
             }
         }
-        return agree("why", new int[0]) && agree("tag", new int[0]) && agree("better", new int[0])
-            && agree("better", new int[0]) && agree("trim", new int[0]) && agree("tag", new int[0]);
+        useHand();
     }
 
-    private boolean start() throws Exception {
-        int places = Math.min(10, maxPlaces);
-        for (int i = 0; i < places; i++) {
-            if (!agree("place", new int[] {random.nextInt(5), 1 + random.nextInt(maxCost)})) return false;
+    private void useHand() {
+        for (String name : new String[] {"why", "tag", "better", "tag", "better", "trim", "tag", "better"}) ask(name);
+        survey("streetTold", due.count(1), 5);
+    }
+
+    private void survey(String name, int limit, int what) {
+        for (int i = -1; i <= limit; i++) {
+            for (int j = -1; j <= what; j++) ask(name, i, j);
         }
-        for (int i = 0; i < Math.min(16, maxStreets) - 2; i++) {
-            int[] street = {random.nextInt(places), random.nextInt(places), 1 + random.nextInt(maxCost)};
-            if (!agree("street", street)) return false;
+    }
+
+    private void surveyAll() {
+        int places = due.count(0);
+        for (String name : new String[] {"span", "least", "many", "walls", "bound", "why", "tag"}) ask(name);
+        survey("told", places, 3);
+        survey("streetTold", due.count(1), 5);
+        survey("apart", places, places);
+        survey("wall", Math.max(0, due.walls()), 2);
+        for (int k = -1; k <= Math.min(60, due.many()); k++) {
+            for (int i = -1; i <= 9; i++) ask("best", k, i);
         }
+        for (int s = -1; s <= due.count(1); s++) ask("must", s);
+        for (int sum = -1; sum < 12 * maxCost; sum += 1 + maxCost / 8) ask("most", sum);
+        for (int a = 0; a < places; a++) {
+            int b = random.nextInt(places);
+            for (int i = -1; i <= places; i++) ask("way", a, b, i);
+        }
+        for (int p = 0; p < places; p++) {
+            ask("act", p, random.nextInt(4), random.nextInt(200) - 100);
+            for (int i = -1; i < 9; i++) ask("trace", i);
+        }
+        for (int what = -1; what <= 7; what++) ask("count", what);
+    }
+
+    private boolean mayAsk(String name) {
+        if (name.equals("place")) return due.count(0) < maxPlaces || random.nextInt(4) == 0 && maxPlaces == 10;
+        if (name.equals("street") || name.equals("fromMap")) return due.count(1) < maxStreets || maxStreets == 16;
         return true;
     }
 
-    private boolean run(int calls) throws Exception {
-        if (random.nextInt(3) != 0 && !start()) return false;
-        for (int i = 0; i < calls; i++) {
-            String name = name();
-            if (tooMany(name)) continue;
-            int at = 0;
-            while (!OWN[at].getName().equals(name)) at++;
-            if (!agree(name, arguments(name, OWN[at].getParameterCount()))) return false;
-            if (random.nextInt(12) == 0 && !(random.nextBoolean() ? laySome() : layBest())) return false;
+    private void run(int calls) {
+        if (random.nextInt(6) != 0) start();
+        for (int i = 0; i < calls && !wrong; i++) {
+            int draw = random.nextInt(40);
+            if (draw == 0) surveyAll();
+            else if (draw < 3) laySome();
+            else if (draw < 5) layBest();
+            else if (draw < 7) streetInMap();
+            else {
+                String[] from = draw < 12 ? BUILD : draw < 16 ? HAND : NAMES;
+                String name = from[random.nextInt(from.length)];
+                if (mayAsk(name)) ask(name, arguments(name));
+            }
         }
-        return true;
+        surveyAll();
     }
 
-    public static void main(String[] args) throws Exception {
+    public static void main(String[] args) {
         long first = args.length > 0 ? Long.parseLong(args[0]) : 1;
-        long last = args.length > 1 ? Long.parseLong(args[1]) : 600;
+        long last = args.length > 1 ? Long.parseLong(args[1]) : 800;
         int wrong = 0;
         for (long seed = first; seed <= last && wrong < 3; seed++) {
             RandomRunsTest test = new RandomRunsTest(seed);
-            if (!test.run(seed % 40 == 0 ? 40 : 120)) {
+            test.run(seed % 40 == 0 ? 20 : 60);
+            if (test.wrong) {
                 System.out.println("run " + seed + " is not as due");
                 wrong++;
             }
