@@ -882,6 +882,7 @@ public final class PromisesTest {
     }
 
     public static void main(String[] args) {
+        Watch.over("promises");
         newObject();
         place();
         street();

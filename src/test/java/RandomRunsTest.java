@@ -200,6 +200,7 @@ public final class RandomRunsTest {
     }
 
     public static void main(String[] args) {
+        Watch.over("random runs");
         long first = args.length > 0 ? Long.parseLong(args[0]) : 1;
         long last = args.length > 1 ? Long.parseLong(args[1]) : 800;
         int wrong = 0;

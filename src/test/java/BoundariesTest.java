@@ -1,0 +1,14 @@
+/** Each sentence of the document that names a boundary case, by the promise that it belongs to. */
+public final class BoundariesTest {
+    private BoundariesTest() { }
+
+    public static void main(String[] args) {
+        Watch.over("boundaries");
+        BoundariesOfNet.all();
+        BoundariesOfTrees.all();
+        BoundariesOfHand.all();
+        BoundariesOfWalls.all();
+        BoundariesOfHost.all();
+        if (Sentences.wrongAtEnd() != 0) System.exit(1);
+    }
+}
