@@ -225,7 +225,7 @@ abstract class Sentences {
         return Calls.run(x, Calls.read(call).get(0));
     }
 
-    // The views ask, or try, all that can be known of an object; each stays under 400 calls.
+    // The views ask, or try, each part of what an object holds; each stays under 300 calls.
 
     private static String things() {
         StringBuilder view = new StringBuilder("why() tag() ");
