@@ -1,4 +1,4 @@
-/** Each sentence of the document that names a boundary case, by the promise that it belongs to. */
+/** Each sentence of the promises and of "Terms", boundary cases above all, by the promise that it belongs to. */
 public final class BoundariesTest {
     private BoundariesTest() { }
 
@@ -9,6 +9,7 @@ public final class BoundariesTest {
         BoundariesOfHand.all();
         BoundariesOfWalls.all();
         BoundariesOfHost.all();
+        BoundariesOfTerms.all();
         if (Sentences.wrongAtEnd() != 0) System.exit(1);
     }
 }

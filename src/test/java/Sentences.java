@@ -276,7 +276,8 @@ abstract class Sentences {
         private final Map<Integer, List<String>> quoted = new TreeMap<>();
         private final Map<Integer, String> promises = new TreeMap<>();
         private String terms = "";
-        private int size = 0;
+        private String before = "";
+        private final List<String> all = new ArrayList<>();
 
         Quotes() {
             Path document = Path.of("../shared/DOC.md");
@@ -291,37 +292,46 @@ abstract class Sentences {
                     String text = section.replaceAll("\\s+", " ").trim();
                     Matcher head = Pattern.compile("Promise (\\d+): \\S[^`]*`[^`]*`: (.*)").matcher(text);
                     if (head.matches()) promises.put(Integer.valueOf(head.group(1)), head.group(2));
-                    if (text.startsWith("Terms") || text.startsWith("What it is")) terms += text;
+                    if (text.startsWith("What it is ")) before = text;
+                    if (text.startsWith("Terms ")) terms = text.substring("Terms ".length());
                 }
             } catch (java.io.IOException unread) {
                 throw new IllegalStateException(unread);
             }
         }
 
-        int size() { return size; }
+        int size() { return all.size(); }
 
         /** null, or why it is no quote. */
         String add(int promise, String words) {
-            size++;
+            all.add(words);
             quoted.computeIfAbsent(promise, key -> new ArrayList<>()).add(words);
-            boolean found = promises.getOrDefault(promise, "").contains(words) || terms.contains(words);
+            boolean found = promises.getOrDefault(promise, "").contains(words) || terms.contains(words)
+                || before.contains(words);
             return promises.isEmpty() || found ? null : "the document does not say so";
         }
 
-        /** What the promises say that no test quotes. */
+        /** What the promises and the terms say that no test quotes. */
         List<String> withoutTest() {
             List<String> lacking = new ArrayList<>();
             for (int promise = 1; promise <= 32; promise++) {
-                String all = promises.getOrDefault(promise, "");
-                StringBuilder left = new StringBuilder(all);
-                for (String words : quoted.getOrDefault(promise, List.of())) {
-                    int at = all.indexOf(words);
-                    for (int i = at; at >= 0 && i < at + words.length(); i++) left.setCharAt(i, ' ');
-                }
-                boolean none = !quoted.containsKey(promise);
-                if (none || !left.toString().isBlank()) lacking.add("promise " + promise + " has no test of: " + left.toString().trim());
+                List<String> own = quoted.getOrDefault(promise, List.of());
+                String left = unquoted(promises.getOrDefault(promise, ""), own);
+                if (own.isEmpty() || !left.isBlank()) lacking.add("promise " + promise + " has no test of: " + left.trim());
             }
+            // The terms are quoted in pieces, so that the signs between these are left over.
+            String left = unquoted(terms.replaceAll("```(text)?", ""), all);
+            if (left.matches(".*\\w.*")) lacking.add("the terms have no test of: " + left.replaceAll(" +", " "));
             return lacking;
+        }
+
+        private static String unquoted(String text, List<String> quotes) {
+            StringBuilder left = new StringBuilder(text);
+            for (String words : quotes) {
+                int at = text.indexOf(words);
+                for (int i = at; at >= 0 && i < at + words.length(); i++) left.setCharAt(i, ' ');
+            }
+            return left.toString();
         }
     }
 }
